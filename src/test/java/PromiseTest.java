@@ -1,15 +1,5 @@
 /** Each promise by hand: ordinary inputs, the edges that the document names, wrong inputs. */
-public final class PromiseTest {
-    private static final int INDEX = 1;
-    private static final int STATE = 2;
-    private static final int ARGUMENT = 3;
-    private static int wrong = 0;
-
-    /** A call whose answer, or the exception that it throws, is looked at. */
-    private interface Call {
-        long answer();
-    }
-
+public final class PromiseTest extends Checks {
     public static void main(String[] args) {
         promise1NewObject();
         promise2Equation();
@@ -30,53 +20,12 @@ public final class PromiseTest {
         promise17Count();
         promise18Clear();
         nothingChangesByThrowing();
-        System.out.println(wrong == 0 ? "all promises are kept" : wrong + " answers are not as due");
-        if (wrong != 0) {
-            System.exit(1);
-        }
-    }
-
-    private static void due(String what, long got, long want) {
-        if (got != want) {
-            wrong++;
-            System.out.println(what + " answered " + got + ", due is " + want);
-        }
-    }
-
-    private static void thrown(String what, int want, Call call) {
-        int got = 0;
-        try {
-            call.answer();
-        } catch (IndexOutOfBoundsException e) {
-            got = e.getClass() == IndexOutOfBoundsException.class ? INDEX : -1;
-        } catch (IllegalStateException e) {
-            got = e.getClass() == IllegalStateException.class ? STATE : -1;
-        } catch (IllegalArgumentException e) {
-            got = e.getClass() == IllegalArgumentException.class ? ARGUMENT : -1;
-        } catch (RuntimeException e) {
-            got = -1;
-        }
-        due(what + " (1 index, 2 state, 3 argument, 0 nothing, -1 another one)", got, want);
-    }
-
-    /** A system of rows of n + 1 numbers, what the row comes to last. */
-    private static TriangularSystems system(int n, int[]... rows) {
-        TriangularSystems s = new TriangularSystems(n);
-        for (int[] row : rows) {
-            int e = s.equation();
-            for (int j = 0; j < row.length; j++) {
-                s.put(e, j, row[j]);
-            }
-        }
-        return s;
-    }
-
-    private static int[] row(int... numbers) {
-        return numbers;
+        end("all promises are kept");
     }
 
     private static void promise1NewObject() {
-        int[][] cases = {{Integer.MIN_VALUE, 1}, {-1, 1}, {0, 1}, {1, 1}, {2, 2}, {3, 3}, {4, 3}, {Integer.MAX_VALUE, 3}};
+        int[][] cases = {{Integer.MIN_VALUE, 1}, {-1, 1}, {0, 1}, {1, 1}, {2, 2}, {3, 3}, {4, 3},
+            {Integer.MAX_VALUE, 3}};
         for (int[] c : cases) {
             TriangularSystems s = new TriangularSystems(c[0]);
             due("1: unknowns of " + c[0], s.count(1), c[1]);
