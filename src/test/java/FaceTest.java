@@ -1,3 +1,4 @@
+import java.lang.reflect.Constructor;
 import java.lang.reflect.Field;
 import java.lang.reflect.Method;
 import java.lang.reflect.Modifier;
@@ -31,7 +32,7 @@ public final class FaceTest {
         Set<String> want = new TreeSet<>(Arrays.asList(FACE));
         Set<String> got = new TreeSet<>();
         Set<String> hidden = new TreeSet<>();
-        boolean right = Modifier.isFinal(TriangularSystems.class.getModifiers());
+        boolean right = isPublicAndFinal() && hasTheOneConstructor() && showsNoClass();
         for (Method m : TriangularSystems.class.getDeclaredMethods()) {
             if (Modifier.isPrivate(m.getModifiers())) {
                 hidden.add(m.getName());
@@ -45,11 +46,33 @@ public final class FaceTest {
         for (Field f : TriangularSystems.class.getDeclaredFields()) {
             right &= Modifier.isPrivate(f.getModifiers());
         }
-        right &= TriangularSystems.class.getDeclaredConstructors().length == 1 && got.equals(want);
+        right &= got.equals(want);
         System.out.println(right ? "the face is the document's" : "the face is not the document's: " + got);
         if (!right) {
             System.exit(1);
         }
+    }
+
+    private static boolean isPublicAndFinal() {
+        int modifiers = TriangularSystems.class.getModifiers();
+        return Modifier.isPublic(modifiers) && Modifier.isFinal(modifiers);
+    }
+
+    private static boolean hasTheOneConstructor() {
+        Constructor<?>[] all = TriangularSystems.class.getDeclaredConstructors();
+        return all.length == 1 && Modifier.isPublic(all[0].getModifiers())
+                && names(all[0].getParameterTypes()).equals("int") && all[0].getExceptionTypes().length == 0;
+    }
+
+    /** The classes inside are static, and not for others to use. */
+    private static boolean showsNoClass() {
+        for (Class<?> inside : TriangularSystems.class.getDeclaredClasses()) {
+            int modifiers = inside.getModifiers();
+            if (Modifier.isPublic(modifiers) || Modifier.isProtected(modifiers) || !Modifier.isStatic(modifiers)) {
+                return false;
+            }
+        }
+        return true;
     }
 
     private static String told(Method m) {

@@ -20,6 +20,7 @@ public final class PromiseTest extends Checks {
         promise17Count();
         promise18Clear();
         nothingChangesByThrowing();
+        exampleOfReadme();
         end("all promises are kept");
     }
 
@@ -313,5 +314,36 @@ public final class PromiseTest extends Checks {
             due("unchanged", s.at(i / 2, i % 2), want[i]);
         }
         due("unchanged plain", s.plain(0, 1), 2);
+    }
+
+    /** README.md tells these calls with these answers. */
+    private static void exampleOfReadme() {
+        TriangularSystems s = system(2, row(4, 6, 8));
+        due("README: solutions", s.solutions(), 1);
+        due("README: free", s.free(0), 1);
+        due("README: plain above", s.plain(0, 0), 2);
+        due("README: plain below", s.plain(0, 1), 1);
+        due("README: direction above", s.direction(0, 0, 0), -3);
+        due("README: direction below", s.direction(0, 0, 1), 2);
+        due("README: whole", s.whole(), true);
+        due("README: least x", s.least(0), 2);
+        due("README: least y", s.least(1), 0);
+        due("README: base x", s.base(0, 0), 3);
+        due("README: base y", s.base(0, 1), -2);
+        due("README: nearest above", s.nearest(0, 0), 8);
+        due("README: nearest below", s.nearest(0, 1), 13);
+        due("README: box", s.inBox(5), 4);
+        exampleWithoutSolution(system(2, row(4, 6, 8), row(2, 3, 9)));
+    }
+
+    private static void exampleWithoutSolution(TriangularSystems s) {
+        due("README: rank", s.rank(), 1);
+        due("README: none", s.solutions(), -1);
+        thrown("README: plain", STATE, () -> s.plain(0, 0));
+        thrown("README: least", STATE, () -> s.least(0));
+        due("README: nearest of none above", s.nearest(1, 0), 15);
+        due("README: nearest of none below", s.nearest(1, 1), 13);
+        due("README: squares above", s.squares(0), 20);
+        due("README: squares below", s.squares(1), 1);
     }
 }
